@@ -70,6 +70,25 @@ final class Check {
         return row.toString();
     }
 
+    /** The whole state, as far as the questions about it tell it. */
+    static String state(ToeplitzLab lab) {
+        int n = lab.size();
+        StringBuilder all = new StringBuilder();
+        all.append(n).append(" prime ").append(lab.prime());
+        if (n > 0) {
+            all.append(" diagonals ").append(row(2 * n - 1, i -> lab.diagonal(i - n + 1)));
+            all.append(" sides ").append(row(n, lab::side)).append(" probes ").append(row(n, lab::probe));
+            all.append(" digits ").append(lab.digits());
+            all.append(" values ").append(row(n, lab::value)).append(" residuals ").append(row(n, lab::residual));
+        }
+        all.append(" account");
+        for (int k = 0; k < lab.entries(); k++) {
+            int entry = k;
+            all.append(" (").append(row(3, what -> lab.accountOf(entry, what))).append(')');
+        }
+        return all.toString();
+    }
+
     static void finish() {
         System.out.println(made + " checks, " + wrong + " wrong");
         if (wrong != 0) {
