@@ -895,7 +895,7 @@ public final class ToeplitzLab {
         /** The primes are so small that trying every number is the plainest way. */
         int inverseOf(int number) {
             for (int candidate = 1; candidate < modulus; candidate++) {
-                if (reduced(candidate * number, modulus) == 1) {
+                if (candidate * number % modulus == 1) {
                     return candidate;
                 }
             }

@@ -6,6 +6,7 @@ public final class AccountTest {
         Check.throwing("accountOf", Check.STATE, () -> none.accountOf(-1, 9));
         kept();
         full();
+        zero();
         wrongArguments();
         Check.finish();
     }
@@ -47,6 +48,15 @@ public final class AccountTest {
         Check.same("entries", 30, lab.entries());
         lab.undo();
         Check.same("entries", 29, lab.entries());
+    }
+
+    private static void zero() {
+        ToeplitzLab lab = Check.lab("toeplitz 7 prime 2;diagonal 0 1");
+        lab.lift();
+        Check.same("nothing is left", "1 0 1", entry(lab, 0));
+        lab.setSide(6, 8);
+        lab.lift();
+        Check.same("the last row has the greatest", "1 4 0", entry(lab, 1));
     }
 
     private static int firstExact(ToeplitzLab lab) {

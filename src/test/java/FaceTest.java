@@ -14,6 +14,7 @@ import java.util.regex.Pattern;
 /** The document's face, each signature of it and nothing more, and those rules of LANGUAGE.md that show in the text. */
 public final class FaceTest {
     private static final Path DOCUMENT = Path.of("../shared/DOC.md");
+    private static final Pattern HEAD = Pattern.compile("^( {4}| {8})(?!class|for|if|while)[a-z].*\\w\\(.*$");
     private static final Path SOURCE = Path.of("src/main/java/ToeplitzLab.java");
 
     public static void main(String[] args) throws IOException {
@@ -106,7 +107,7 @@ public final class FaceTest {
     private static void lengths() throws IOException {
         String[] lines = Files.readString(SOURCE).split("\n");
         for (int k = 0; k < lines.length; k++) {
-            Matcher head = Pattern.compile("^( {4}| {8})(?!class|for|if|while)[a-z].*\\w\\(.*$").matcher(lines[k]);
+            Matcher head = HEAD.matcher(lines[k]);
             if (head.matches() && !lines[k].contains("class ") && !lines[k].endsWith(";")) {
                 int end = k;
                 while (end < lines.length && !lines[end].equals(head.group(1) + "}")) {

@@ -119,6 +119,8 @@ public final class InputTest {
     private static void grammarErrors() {
         error("another word", "toeplit 3 prime 5", 1, 0);
         error("a word of the same length", "toeplitx 3 prime 5", 1, 0);
+        error("another first letter", "poeplitz 3 prime 5", 1, 0);
+        error("another first letter", "toeplitz 3 prime 5;hand 0 0 1", 1, 19);
         error("a number at the beginning", "3 prime 5", 1, 0);
         error("no size", "toeplitz prime 5", 1, 9);
         error("a negative size", "toeplitz -3 prime 5", 1, 9);
@@ -171,6 +173,7 @@ public final class InputTest {
         error("a side twice", head + "side 1 1;side 2 1;side 1 1", 3, 42);
         error("a probe twice", head + "probe 2 1;probe 2 1", 3, 35);
         good("a row of both sorts", head + "side 1 1;probe 1 1;side 2 1;probe 0 1", "", 3);
+        good("the last side and the first probe", "toeplitz 7 prime 5;side 6 1;probe 0 1", "", 7);
         good("bands side by side", head + "band -2 -1 1;band 0 1 1;diagonal 2 2", "", 3);
     }
 
@@ -184,6 +187,9 @@ public final class InputTest {
         error("a ninth band, wrong behind its first word", eight + ";band", 4, eight.length() + 1);
         error("another error before", eight + ";;band 6 6 1", 1, eight.length() + 1);
         good("a diagonal behind eight bands", eight + ";diagonal 6 6", "", 7);
+        ToeplitzLab lab = Check.lab(eight + ";side 0 1;probe 0 1");
+        Check.same("what an earlier text told does not count", 7,
+                lab.load(Check.put(lab, eight + ";side 0 1;probe 0 1")));
     }
 
     private static void latestError() {

@@ -9,6 +9,7 @@ public final class MinorTest {
     public static void main(String[] args) {
         none();
         regular();
+        greatest();
         jump();
         singular();
         swaps();
@@ -41,6 +42,15 @@ public final class MinorTest {
         Check.same("longestJump", 1, lab.longestJump());
         Check.same("tail", 0, lab.tail());
         Check.same("all primes but 5", 2043, lab.regularPrimes());
+    }
+
+    private static void greatest() {
+        ToeplitzLab lab = Check.lab("toeplitz 7 prime 3;diagonal 0 2");
+        Check.same("minors", "1 2 1 2 1 2 1 2", Check.row(8, lab::minor));
+        Check.same("rank", 7, lab.rank());
+        Check.same("steps", 7, lab.steps());
+        Check.same("stepEnd", "0 1 2 3 4 5 6 7", Check.row(8, lab::stepEnd));
+        Check.same("tail", 0, lab.tail());
     }
 
     private static void jump() {

@@ -24,6 +24,10 @@ public final class ModularTest {
         Check.same("inverse, row 1", "6 0 4", Check.row(3, j -> lab.inverse(1, j)));
         Check.same("inverse, row 2", "0 6 2", Check.row(3, j -> lab.inverse(2, j)));
         Check.same("isSolvable", true, lab.isSolvable());
+        ToeplitzLab seven = Check.lab("toeplitz 7 prime 5;diagonal 0 1;diagonal 1 -1;side 0 1;side 6 1");
+        Check.same("the sums of the sides", "1 1 1 1 1 1 2", Check.row(7, seven::solution));
+        Check.same("ones below", "1 1 1 1 1 1 1", Check.row(7, j -> seven.inverse(6, j)));
+        Check.same("isSolvable", true, seven.isSolvable());
         ToeplitzLab hollow = Check.lab("toeplitz 2 prime 5;diagonal 1 3;diagonal -1 2;side 0 -1;side 1 1");
         Check.same("solution with rows swapped", "2 2", Check.row(2, hollow::solution));
         Check.same("inverse with rows swapped", "0 2 3 0", Check.row(4, k -> hollow.inverse(k / 2, k % 2)));

@@ -127,6 +127,7 @@ public final class RefinementTest {
 
     private static void commonMultiple() {
         ToeplitzLab lab = Check.lab(APART);
+        Check.same("one part alone, with the last lift that there is", 8, lab.liftsTo());
         Check.same("one part alone", 8, lab.refine(40));
         Check.same("is exact", true, lab.isExact());
         Check.same("its denominator", 161201, lab.denominator(0));
@@ -137,6 +138,17 @@ public final class RefinementTest {
                 Check.row(7, lab::denominator));
         Check.same("have a multiple that is too great", false, lab.isExact());
         Check.same("liftsTo without room", ToeplitzLab.NONE, lab.liftsTo());
+        // The determinants 139049 and 7163, with the least common multiple 996007987.
+        ToeplitzLab near = Check.lab("toeplitz 7 prime 31;diagonal 0 19;diagonal 2 2;diagonal -2 -4;side 0 1;side 1 1");
+        Check.same("both", 8, near.refine(40));
+        Check.same("have a multiple that is just not too great", true, near.isExact());
+        // The determinant 709805 would need a ninth digit.
+        ToeplitzLab far = Check.lab("toeplitz 7 prime 31;diagonal 0 29;diagonal 2 1;diagonal -2 -1;side 0 1");
+        Check.same("no digit yet", ToeplitzLab.NONE, far.liftsTo());
+        far.lift();
+        Check.same("one digit", ToeplitzLab.NONE, far.liftsTo());
+        Check.same("refine", 7, far.refine(40));
+        Check.same("isExact", false, far.isExact());
     }
 
     private static void primeInDenominator() {
@@ -197,7 +209,8 @@ public final class RefinementTest {
     }
 
     private static String fractions(ToeplitzLab lab) {
-        return Check.row(lab.size(), i -> lab.denominator(i) == 0 ? "none" : lab.numerator(i) + "/" + lab.denominator(i));
+        return Check.row(lab.size(),
+                i -> lab.denominator(i) == 0 ? "none" : lab.numerator(i) + "/" + lab.denominator(i));
     }
 
     private static void wrongArguments() {
