@@ -72,6 +72,16 @@ final class Check {
 
     /** The whole state, as far as the questions about it tell it. */
     static String state(ToeplitzLab lab) {
+        StringBuilder all = new StringBuilder(system(lab)).append(" account");
+        for (int k = 0; k < lab.entries(); k++) {
+            int entry = k;
+            all.append(" (").append(row(3, what -> lab.accountOf(entry, what))).append(')');
+        }
+        return all.toString();
+    }
+
+    /** The system and the refinement, with a few calls. */
+    static String system(ToeplitzLab lab) {
         int n = lab.size();
         StringBuilder all = new StringBuilder();
         all.append(n).append(" prime ").append(lab.prime());
@@ -80,11 +90,6 @@ final class Check {
             all.append(" sides ").append(row(n, lab::side)).append(" probes ").append(row(n, lab::probe));
             all.append(" digits ").append(lab.digits());
             all.append(" values ").append(row(n, lab::value)).append(" residuals ").append(row(n, lab::residual));
-        }
-        all.append(" account");
-        for (int k = 0; k < lab.entries(); k++) {
-            int entry = k;
-            all.append(" (").append(row(3, what -> lab.accountOf(entry, what))).append(')');
         }
         return all.toString();
     }

@@ -94,7 +94,8 @@ public final class FaceTest {
     private static void words() throws IOException {
         String source = Files.readString(SOURCE, StandardCharsets.US_ASCII);
         for (String word : new String[] {"->", "::", "package ", "catch", "finally", "synchronized", "assert ",
-            "instanceof", "System.out", "addExact", "multiplyExact", "Random", "Thread", "static {", "var ", "hashCode", "getMessage"}) {
+            "instanceof", "System.out", "addExact", "multiplyExact", "Random", "Thread", "static {", "var ", "hashCode",
+            "getMessage"}) {
             Check.same("the text has " + word, false, source.contains(word));
         }
         Matcher imports = Pattern.compile("(?m)^import (.*);$").matcher(source);
